@@ -778,6 +778,11 @@ public final class CensusLoom {
             return blockEnd(cell) | groupEnd(cell);
         }
 
+        static int endsInBlock(int cells, int block) {
+            int groups = (cells >> (block * GROUPS)) & CELLS_OF_FIRST_BLOCK;
+            return (groups << MAX_BLOCKS) | (1 << block);
+        }
+
         static int smallCells(int[] counts) {
             int small = 0;
             for (int cell = 0; cell < CELLS; cell++) {
@@ -848,9 +853,11 @@ public final class CensusLoom {
             int tied = ends;
             for (int round = 0; round < ENDS; round++) {
                 int before = tied;
-                for (int cell = 0; cell < CELLS; cell++) {
-                    if (has(cells, cell) && (endsOf(cell) & tied) != 0) {
-                        tied |= endsOf(cell);
+                for (int block = 0; block < MAX_BLOCKS; block++) {
+                    // A block hangs together with the groups of all its cells, so these ends come in together.
+                    int together = endsInBlock(cells, block);
+                    if ((together & tied) != 0) {
+                        tied |= together;
                     }
                 }
                 if (tied == before) {
