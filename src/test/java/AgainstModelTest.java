@@ -1,6 +1,6 @@
 import java.util.Random;
 
-/** Long runs of calls by lot, with the same seeds each time, on the class and on the model: all answers are the same. */
+/** Long runs of calls by lot, with the same seeds each time, on the class and on the model: all answers agree. */
 public final class AgainstModelTest {
     private static final int RUNS = 400;
     private static final int CALLS = 512;

@@ -77,8 +77,9 @@ public final class TablesTest {
         tells("one small beside a greater one", new int[][] {{1, 3, 0, 0}, {0, 0, 0, 0}}, null);
         tells("an empty cell is never hidden", new int[][] {{1, 1, 0, 0}, {1, 0, 0, 0}}, null);
         tells("a 3 is not hidden by itself", new int[][] {{3, 2, 2, 0}, {3, 2, 2, 0}}, "3,x,x,0;3,x,x,0;");
-        tells("six blocks: the least of all, as long as none helps", new int[][] {{1, 0, 0, 5}, {1, 0, 0, 5}, {0, 0, 0, 0}, {0, 3, 3, 0}, {0, 3, 3, 0},
-            {0, 0, 0, 0}}, "x,0,0,x;x,0,0,x;0,0,0,0;0,x,x,0;0,x,x,0;0,0,0,0;");
+        tells("six blocks: the least of all, as long as none helps",
+                new int[][] {{1, 0, 0, 5}, {1, 0, 0, 5}, {0, 0, 0, 0}, {0, 3, 3, 0}, {0, 3, 3, 0}, {0, 0, 0, 0}},
+                "x,0,0,x;x,0,0,x;0,0,0,0;0,x,x,0;0,x,x,0;0,0,0,0;");
     }
 
     private static void telling() {
