@@ -93,7 +93,10 @@ public final class CountsTest {
         Check.due("but the counted one has", () -> two.matchOf(1), 2);
     }
 
-    /** Twenty census records that are kept apart, each linked to each of twenty check records. */
+    /**
+     * Terms, "The linked pairs": as many as there can be, 400. Twenty census records that are kept apart, each linked
+     * to each of twenty check records.
+     */
     private static void mostPairs() {
         CensusLoom loom = town();
         for (int record = 0; record < 40; record++) {

@@ -1,7 +1,13 @@
 import java.io.IOException;
+import java.lang.reflect.Field;
+import java.lang.reflect.Method;
+import java.lang.reflect.Modifier;
 import java.nio.file.Files;
 import java.nio.file.Path;
+import java.util.ArrayList;
+import java.util.HashMap;
 import java.util.List;
+import java.util.Map;
 import java.util.regex.Matcher;
 import java.util.regex.Pattern;
 
@@ -9,6 +15,10 @@ import java.util.regex.Pattern;
 public final class LanguageTest {
     private static final Path FILE = Path.of("src/main/java/CensusLoom.java");
     private static final int LONGEST_METHOD = 60;
+    private static final int DEEPEST_CALLS = 8;
+    private static final int MOST_CLASSES = 12;
+    private static final int MOST_FIELDS = 20;
+    private static final int MOST_PARAMETERS = 7;
     private static final String[] RULED_OUT = {
         "->", "::", "\\b(catch|try|finally|synchronized|assert|package|native|volatile|transient)\\b",
         "\\b(equals|hashCode|toString)\\(\\w", "Exact\\(", "\\bstatic \\{", "@", "\\b(var|Object|System|Thread)\\b",
@@ -58,6 +68,66 @@ public final class LanguageTest {
         }
     }
 
+    /** Rule 11: how many classes there are, and how large they and their methods' heads are; rule 5: static fields. */
+    private static void sizes() {
+        List<Class<?>> classes = new ArrayList<>(List.of(CensusLoom.class.getDeclaredClasses()));
+        classes.add(CensusLoom.class);
+        Check.due("few classes", () -> classes.size() <= MOST_CLASSES, true);
+        for (Class<?> type : classes) {
+            int fields = 0;
+            for (Field field : type.getDeclaredFields()) {
+                boolean isStatic = Modifier.isStatic(field.getModifiers());
+                fields += isStatic ? 0 : 1;
+                Check.due(field + " is not static, or final", () -> !isStatic
+                        || Modifier.isFinal(field.getModifiers()), true);
+            }
+            int ownFields = fields;
+            Check.due("few fields in " + type, () -> ownFields <= MOST_FIELDS, true);
+            for (Method method : type.getDeclaredMethods()) {
+                Check.due("few parameters of " + method, () -> method.getParameterCount() <= MOST_PARAMETERS, true);
+            }
+        }
+    }
+
+    /** The text of each method behind its head, of all that have the same name together. */
+    private static Map<String, String> bodies(List<String> lines) {
+        Map<String, String> bodies = new HashMap<>();
+        Pattern head = Pattern.compile("^ {4}(?: {4})?(?:\\w+(?:\\[\\])? )+(\\w+)\\(.*");
+        String name = null;
+        for (String line : lines) {
+            Matcher matcher = head.matcher(line);
+            boolean isHead = matcher.matches() && !line.endsWith(";") && !line.contains(" = ");
+            if (isHead) {
+                name = matcher.group(1);
+                bodies.putIfAbsent(name, "");
+            } else if (name != null) {
+                bodies.merge(name, line + "\n", String::concat);
+            }
+        }
+        return bodies;
+    }
+
+    private static int depth(String name, Map<String, String> bodies, int above) {
+        int deepest = 0;
+        Matcher calls = Pattern.compile("\\b(\\w+)\\(").matcher(bodies.get(name));
+        while (calls.find() && above <= DEEPEST_CALLS) {
+            if (bodies.containsKey(calls.group(1))) {
+                deepest = Math.max(deepest, depth(calls.group(1), bodies, above + 1));
+            }
+        }
+        return deepest + 1;
+    }
+
+    /** Rule 11: calls go at most eight deep; there is no recursion, which would be deeper. */
+    private static void depths(List<String> lines) {
+        Map<String, String> bodies = bodies(lines);
+        Check.due("the methods were met", () -> bodies.keySet().containsAll(
+                List.of("addBlock", "addRecord", "settle", "nameScore", "isSafe", "hasClosedWay", "lineOf")), true);
+        for (String name : bodies.keySet()) {
+            Check.due("calls below " + name, () -> depth(name, bodies, 1) <= DEEPEST_CALLS, true);
+        }
+    }
+
     public static void main(String[] args) throws IOException {
         String source = Files.readString(FILE);
         String code = withoutComments(source);
@@ -68,6 +138,8 @@ public final class LanguageTest {
         imports(code);
         throwing(code);
         lengths(source.lines().toList());
+        sizes();
+        depths(code.lines().toList());
         Check.end();
     }
 }
