@@ -49,7 +49,7 @@ public final class FaceTest {
         "boolean isSafe()",
     };
 
-    private static String told(Method method) {
+    static String told(Method method) {
         StringBuilder text = new StringBuilder();
         text.append(method.getReturnType().getSimpleName()).append(' ').append(method.getName()).append('(');
         String between = "";

@@ -8,6 +8,7 @@ import java.util.ArrayList;
 import java.util.HashMap;
 import java.util.List;
 import java.util.Map;
+import java.util.Set;
 import java.util.regex.Matcher;
 import java.util.regex.Pattern;
 
@@ -24,6 +25,10 @@ public final class LanguageTest {
         "\\b(equals|hashCode|toString)\\(\\w", "Exact\\(", "\\bstatic \\{", "@", "\\b(var|Object|System|Thread)\\b",
         "\"\\s*\\+|\\+\\s*\"", "\\b(protected)\\b", "\\[\\]\\s*\\[\\]\\s*\\[\\]",
     };
+    private static final Set<String> WORDS_BEFORE_BRACKETS = Set.of("if", "for", "while", "switch", "return");
+    private static final Set<String> LIBRARY = Set.of("length", "charAt", "append", "toString", "min", "max", "bitCount");
+    private static final Set<Class<?>> CONSTANTS = Set.of(int.class, long.class, boolean.class, char.class,
+            String.class);
 
     private static String withoutComments(String source) {
         return source.replaceAll("(?s)/\\*.*?\\*/", "").replaceAll("//[^\n]*", "");
@@ -78,8 +83,8 @@ public final class LanguageTest {
             for (Field field : type.getDeclaredFields()) {
                 boolean isStatic = Modifier.isStatic(field.getModifiers());
                 fields += isStatic ? 0 : 1;
-                Check.due(field + " is not static, or final", () -> !isStatic
-                        || Modifier.isFinal(field.getModifiers()), true);
+                Check.due(field + " is not static, or a constant", () -> !isStatic
+                        || Modifier.isFinal(field.getModifiers()) && CONSTANTS.contains(field.getType()), true);
             }
             int ownFields = fields;
             Check.due("few fields in " + type, () -> ownFields <= MOST_FIELDS, true);
@@ -105,6 +110,17 @@ public final class LanguageTest {
             }
         }
         return bodies;
+    }
+
+    /** Rule 4: what is called is a method of the file, or one of those few of the library. */
+    private static void library(String code, Set<String> own) {
+        Matcher calls = Pattern.compile("(new )?\\b(\\w+)\\s*\\(").matcher(code);
+        while (calls.find()) {
+            String name = calls.group(2);
+            boolean isMade = Character.isUpperCase(name.charAt(0));
+            Check.due("a call that the rules list: " + name, () -> isMade || own.contains(name)
+                    || LIBRARY.contains(name) || WORDS_BEFORE_BRACKETS.contains(name), true);
+        }
     }
 
     private static int depth(String name, Map<String, String> bodies, int above) {
@@ -140,6 +156,7 @@ public final class LanguageTest {
         lengths(source.lines().toList());
         sizes();
         depths(code.lines().toList());
+        library(code, bodies(code.lines().toList()).keySet());
         Check.end();
     }
 }
