@@ -26,7 +26,8 @@ public final class LanguageTest {
         "\"\\s*\\+|\\+\\s*\"", "\\b(protected)\\b", "\\[\\]\\s*\\[\\]\\s*\\[\\]",
     };
     private static final Set<String> WORDS_BEFORE_BRACKETS = Set.of("if", "for", "while", "switch", "return");
-    private static final Set<String> LIBRARY = Set.of("length", "charAt", "append", "toString", "min", "max", "bitCount");
+    private static final Set<String> LIBRARY = Set.of("length", "charAt", "append", "toString", "min", "max",
+            "bitCount");
     private static final Set<Class<?>> CONSTANTS = Set.of(int.class, long.class, boolean.class, char.class,
             String.class);
 

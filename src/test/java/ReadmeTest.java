@@ -131,7 +131,7 @@ public final class ReadmeTest {
         return behind.length == 2 ? behind[1].split("(?m)^##")[0] : "";
     }
 
-    /** The document says ahead of which calls each head stands; the page has a row for each of these, in their order. */
+    /** The document says ahead of which calls each head stands; the page has a row for each, in their order. */
     private static void tables(String page, String document) {
         Set<String> face = new HashSet<>();
         for (Method method : face()) {
